@@ -61,6 +61,8 @@ public final class AllTest {
         d.make(0, Check.STOP, 1, 1);
         d.stop(0, 0xFFFE, true);
         d.make(2, Check.STEPPED, 1, 1);
+        d.rule(2, 2, 9, 1, 5);
+        d.rule(2, 2, 8, 1, 6);
         d.empty(1);
         d.empty(3);
         d.note(4, 4L);
@@ -81,6 +83,7 @@ public final class AllTest {
         c.due("seat", d.seat(0), 7);
         c.due("seat", d.seat(1), 16);
         c.due("why, a RULE", d.why(2), 2);
+        c.due("way of a RULE", d.way(2), 1);
         c.due("why, a STOP", d.why(0), 9);
         d.caller(1, 0, 5, 0);
         c.due("why, a RULE", d.why(2), 1);
@@ -121,8 +124,11 @@ public final class AllTest {
         d.restore();
         c.due("TRIAL's LOOKS", d.look(0, 1), 0);
         c.due("TRIAL's LOOKS", d.look(0, 1), 3);
+        d.image();
+        d.trial(0, 1, 2, 400, 3);
         d.restore();
-        isFull(d);
+        c.due("TRIAL's end", d.trialTold(0, 6), 3);
+        c.due("TRIAL's end", d.look(0, 1), Check.NO);
     }
 
     private static void imageStays() {

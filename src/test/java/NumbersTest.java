@@ -80,6 +80,14 @@ public final class NumbersTest {
         c.due("one", d.both(0, 1, 14, 1), 0);
         d.stop(1, 1, true);
         c.due("stopped", d.both(0, 1, 0, 2000), 0);
+        d.stop(1, 1, false);
+        c.due("stopped no more", d.among(0, 1, 0, 2000), 10);
+        d.stop(1, 1, true);
+        c.due("stopped", d.moves(0, 0, 0, 2000), 0);
+        d.stop(1, 1, false);
+        c.due("stopped no more", d.moves(0, 0, 0, 2000), 10);
+        d.stop(1, 1, true);
+        c.due("stopped", d.among(0, 1, 0, 2000), 0);
     }
 
     private static void moves() {
@@ -149,6 +157,8 @@ public final class NumbersTest {
             c.due("way", d.among(0, way, 0, 1), Check.BEYOND);
             c.due("way", d.among(6, way, 0, -1), Check.BEYOND);
         }
+        c.due("BEYOND goes ahead", d.both(6, 16, 0, -1), Check.BEYOND);
+        c.due("BEYOND goes ahead", d.both(5, -1, 0, -1), Check.BEYOND);
         c.due("place first", d.both(5, 6, 0, -1), Check.KIND);
         c.due("place first", d.both(6, 5, 0, -1), Check.MISSING);
         c.due("other", d.both(0, 6, 0, -1), Check.MISSING);

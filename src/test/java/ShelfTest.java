@@ -18,6 +18,7 @@ public final class ShelfTest {
         ringOverThree();
         ringTakesTheShortest();
         ringTakesTheLeast();
+        ringEndsAtItsGoal();
         ringOverStops();
         ringGoesOverEmptyPlaces();
         ringEndsWithWhatIsGone();
@@ -101,9 +102,18 @@ public final class ShelfTest {
         c.due("seat", d.seat(0), 4);
         d.row(0, 1);
         c.due("STEPS are 0", d.step(0, 0, 0), 0);
+        d.row(0, 1);
+        d.budget(0, 1, 0, 0, false);
+        d.grow(0, 0);
+        d.count(0, 1, 0, 1, 1);
+        c.due("taken BACK", d.stands(0, 3), 1);
+        d.make(0, Check.STEPPED, 1, 0);
+        c.due("taken BACK", d.stands(0, 3), 0);
+        c.due("waits", d.stands(0, 2), 0);
         d.make(0, Check.STOP, 1, 0);
         c.due("it is not ON, its set is none", d.why(2), 0);
         c.due("it hangs on none", d.why(0), 0);
+        c.due("its set is none", d.hang(0, 2, 0), 1);
     }
 
     private static void notes() {
@@ -112,6 +122,9 @@ public final class ShelfTest {
         c.due("read", d.read(15), Long.MIN_VALUE);
         c.due("note", d.note(15, Long.MAX_VALUE), 1);
         c.due("read", d.read(15), Long.MAX_VALUE);
+        c.due("a SWITCH over it", d.make(15, Check.PLAIN, 1, 0), 1);
+        c.due("it is no NOTE any more", d.read(15), 0L);
+        c.due("KIND", d.status(Check.KIND), 1);
         c.due("over a SWITCH", d.note(0, -7L), 1);
         c.due("read", d.read(0), -7L);
         c.due("holds", d.holds(0), 5);
@@ -121,7 +134,7 @@ public final class ShelfTest {
         }
         c.due("both were counted", d.status(Check.BEYOND), 8);
         c.due("a SWITCH", d.read(1), 0L);
-        c.due("KIND", d.status(Check.KIND), 1);
+        c.due("KIND", d.status(Check.KIND), 2);
         c.due("nothing", d.read(9), 0L);
         c.due("MISSING", d.status(Check.MISSING), 1);
     }
@@ -248,6 +261,7 @@ public final class ShelfTest {
         for (int place : new int[] {-1, 16, Check.LEAST, Check.MOST}) {
             c.due("place", d.hang(place, 0, 0), Check.BEYOND);
             c.due("place", d.hang(place, Check.NONE, 0), Check.BEYOND);
+            c.due("BEYOND goes ahead of MISSING", d.hang(place, 6, 0), Check.BEYOND);
         }
         for (int on : new int[] {-2, 16, Check.LEAST, Check.MOST}) {
             c.due("on", d.hang(3, on, 0), Check.BEYOND);
@@ -299,6 +313,7 @@ public final class ShelfTest {
         d.stop(4, 0, false);
         d.hang(4, 0, 0);
         c.due("what it hangs on", d.stop(4, 1, true), Check.RING);
+        c.due("the set is as it was, none", d.hang(4, 0, 0), 1);
         c.due("what is refused changes nothing", d.stop(4, 2, true), 1);
         c.due("set", d.why(1), 12);
         c.due("ring", d.ring(0), 0);
@@ -356,6 +371,17 @@ public final class ShelfTest {
         d.hang(14, 9, 0);
         c.due("RING", d.hang(12, 1, 0), Check.RING);
         ringIs(d, 1, 8, 12);
+    }
+
+    private static void ringEndsAtItsGoal() {
+        LadderDesk d = hangers();
+        d.make(14, Check.STOP, 1, 0);
+        d.hang(14, 5, 0);
+        d.stop(14, 1 << 4, false);
+        d.hang(4, 1, 0);
+        d.hang(5, 1, 0);
+        c.due("4 asks the goal, and one more that comes to it", d.hang(1, 4, 0), Check.RING);
+        ringIs(d, 1, 4);
     }
 
     private static void ringOverStops() {

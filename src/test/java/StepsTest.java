@@ -122,6 +122,7 @@ public final class StepsTest {
         LadderDesk d = Check.ofEachKind();
         c.due("place", d.copy(16, 0, 6, 0, 0), Check.BEYOND);
         c.due("other", d.copy(6, 0, -1, 0, 0), Check.BEYOND);
+        c.due("other", d.copy(6, 0, 16, 0, 0), Check.BEYOND);
         c.due("nothing there", d.copy(6, 0, 1, 0, 0), Check.MISSING);
         c.due("nothing there", d.copy(1, 0, 6, 0, 0), Check.MISSING);
         c.due("KIND of the first goes ahead", d.copy(0, 0, 6, 0, 0), Check.KIND);

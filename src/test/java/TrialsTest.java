@@ -214,7 +214,7 @@ public final class TrialsTest {
     }
 
     private static void chanceJustAtThePart() {
-        // 2 of C(16, 8) = 12870; 1 of 5 and 2 of 5 are such that no cut may happen.
+        // A CHANCE of 1 of 5 comes to whole PARTS: one PART less must not end it.
         LadderDesk d = trial(4000, 2);
         tell(d, 0, 0, 1, 1);
         tell(d, 1, 0, 4, 0);
