@@ -213,10 +213,7 @@ public final class LadderDesk {
 
     public int hang(int place, int on, int way) {
         boolean onNone = on == NONE;
-        if (!within(place, PLACES - 1)) {
-            return refuse(BEYOND);
-        }
-        if (!onNone && (!within(on, PLACES - 1) || !within(way, WAYS - 1))) {
+        if (!onNone && !within(way, WAYS - 1)) {
             return refuse(BEYOND);
         }
         int fault = hangFault(place, on);
@@ -302,16 +299,10 @@ public final class LadderDesk {
     }
 
     public int copy(int place, int i, int other, int j, int n) {
-        if (!within(place, PLACES - 1) || !within(other, PLACES - 1)) {
-            return refuse(BEYOND);
-        }
         Switch from = shelf.find(place, STEPPED);
-        if (from == null) {
-            return refuseAt(place, STEPPED);
-        }
         Switch to = shelf.find(other, STEPPED);
-        if (to == null) {
-            return refuseAt(other, STEPPED);
+        if (from == null || to == null) {
+            return refuseAtEither(place, other, STEPPED);
         }
         if (!from.ladder.hasRow() || !to.ladder.hasRow()) {
             return refuse(MISSING);
@@ -582,14 +573,11 @@ public final class LadderDesk {
     }
 
     public int both(int place, int other, int first, int n) {
-        if (!within(place, PLACES - 1) || !within(other, PLACES - 1) || !within(first, LAST_NUMBER)) {
+        if (!within(first, LAST_NUMBER)) {
             return refuse(BEYOND);
         }
-        if (shelf.find(place, ANY) == null) {
-            return refuseAt(place, ANY);
-        }
-        if (shelf.find(other, ANY) == null) {
-            return refuseAt(other, ANY);
+        if (shelf.find(place, ANY) == null || shelf.find(other, ANY) == null) {
+            return refuseAtEither(place, other, ANY);
         }
         int fault = crowdFault(first, n);
         if (fault != 0) {
@@ -698,14 +686,25 @@ public final class LadderDesk {
         return got < 0 ? refuse(got) : got;
     }
 
-    // A PLACE that is MISSING on either side goes ahead of a KIND that is wrong on either side.
+    private int refuseAtEither(int place, int other, int kinds) {
+        return refuse(firstFault(shelf.faultAt(place, kinds), shelf.faultAt(other, kinds)));
+    }
+
     private int hangFault(int place, int on) {
         int own = shelf.faultAt(place, HANGING);
         int other = on == NONE ? 0 : shelf.faultAt(on, ANY);
-        if (own == MISSING || other == MISSING) {
+        return firstFault(own, other);
+    }
+
+    // Each line has BEYOND, MISSING, KIND once for both PLACES: the word goes ahead, not the PLACE.
+    private static int firstFault(int fault, int other) {
+        if (fault == BEYOND || other == BEYOND) {
+            return BEYOND;
+        }
+        if (fault == MISSING || other == MISSING) {
             return MISSING;
         }
-        return own != 0 ? own : other;
+        return fault != 0 ? fault : other;
     }
 
     private static int crowdFault(int first, int n) {

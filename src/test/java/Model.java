@@ -446,6 +446,7 @@ final class Model {
 
     private int copy(int[] n) {
         must(in(n[0], 0, 15) && in(n[2], 0, 15), -3);
+        must(shelf[n[0]] != null && shelf[n[2]] != null, -2);
         Sw from = stepped(n[0]);
         Sw to = stepped(n[2]);
         must(from.steps != null && to.steps != null, -2);
@@ -666,6 +667,7 @@ final class Model {
 
     private int both(int[] n) {
         must(in(n[0], 0, 15) && in(n[1], 0, 15) && in(n[2], 0, 999999), -3);
+        must(shelf[n[0]] != null && shelf[n[1]] != null, -2);
         any(n[0]);
         any(n[1]);
         crowd(n[2], n[3]);

@@ -159,8 +159,12 @@ public final class NumbersTest {
         }
         c.due("BEYOND goes ahead", d.both(6, 16, 0, -1), Check.BEYOND);
         c.due("BEYOND goes ahead", d.both(5, -1, 0, -1), Check.BEYOND);
-        c.due("place first", d.both(5, 6, 0, -1), Check.KIND);
-        c.due("place first", d.both(6, 5, 0, -1), Check.MISSING);
+        c.due("BEYOND goes ahead", d.both(16, 6, 0, -1), Check.BEYOND);
+        c.due("BEYOND goes ahead", d.both(-1, 5, 0, -1), Check.BEYOND);
+        c.due("MISSING of the other goes ahead of KIND", d.both(5, 6, 0, -1), Check.MISSING);
+        c.due("MISSING goes ahead of KIND of the other", d.both(6, 5, 0, -1), Check.MISSING);
+        c.due("nothing at both", d.both(6, 7, 0, -1), Check.MISSING);
+        c.due("NOTES at both", d.both(5, 5, 0, -1), Check.KIND);
         c.due("other", d.both(0, 6, 0, -1), Check.MISSING);
         c.due("other", d.both(0, 5, 0, -1), Check.KIND);
     }

@@ -125,8 +125,14 @@ public final class StepsTest {
         c.due("other", d.copy(6, 0, 16, 0, 0), Check.BEYOND);
         c.due("nothing there", d.copy(6, 0, 1, 0, 0), Check.MISSING);
         c.due("nothing there", d.copy(1, 0, 6, 0, 0), Check.MISSING);
-        c.due("KIND of the first goes ahead", d.copy(0, 0, 6, 0, 0), Check.KIND);
-        c.due("nothing at the first goes ahead", d.copy(6, 0, 0, 0, 0), Check.MISSING);
+        for (int place : new int[] {0, 3, 4, 5}) {
+            c.due("MISSING of the other goes ahead of KIND", d.copy(place, 0, 6, 0, 0), Check.MISSING);
+            c.due("MISSING goes ahead of KIND of the other", d.copy(6, 0, place, 0, 0), Check.MISSING);
+            c.due("KIND goes ahead of the ROW of the other", d.copy(place, 0, 1, 0, 0), Check.KIND);
+            c.due("KIND of the other goes ahead of the ROW", d.copy(1, 0, place, 0, 0), Check.KIND);
+            c.due("KIND of both", d.copy(place, 0, place, 0, 0), Check.KIND);
+        }
+        c.due("nothing at both", d.copy(6, 0, 7, 0, 0), Check.MISSING);
         c.due("NOTE", d.copy(5, 0, 1, 0, 0), Check.KIND);
         c.due("NOTE", d.copy(1, 0, 5, 0, 0), Check.KIND);
         c.due("PLAIN", d.copy(1, 0, 0, 0, 0), Check.KIND);
