@@ -23,6 +23,15 @@ final class Check {
     static final int LEAST = Integer.MIN_VALUE;
     static final int MOST = Integer.MAX_VALUE;
 
+    /** What ofEachKind() has at PLACES that hold no SWITCH. */
+    static final int NOTE = 5;
+    static final int NOTHING = 6;
+
+    /** The first numbers that are not from low to high any more, and the last ones that there are. */
+    static int[] beyond(int low, int high) {
+        return new int[] {low - 1, high + 1, LEAST, MOST};
+    }
+
     private int wrong;
     private int asked;
 

@@ -28,7 +28,7 @@ public final class RoomTest {
 
     private static void dearestRun() {
         LadderDesk d = new LadderDesk();
-        for (int i = 0; i < 128; i++) {
+        for (int i = 0; i < 127; i++) {
             d.make(i % 16, i % 5, 1, 0);
             d.image();
             d.count(i % 16, i % 4, 239, 1, 0);
