@@ -32,10 +32,7 @@ public final class BudgetEdgesTest {
     private static LadderDesk climbed(int kind, int stands) {
         LadderDesk d = new LadderDesk();
         d.make(0, kind, 1, 0);
-        d.row(0, 5);
-        for (int i = 0; i < 5; i++) {
-            d.step(0, i, 10 * (i + 1));
-        }
+        Desks.lay(d, 0, 10, 20, 30, 40, 50);
         d.count(0, 1, 0, 0, 0);
         for (int i = 0; i <= stands; i++) {
             d.grow(0, 0);

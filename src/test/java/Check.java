@@ -39,9 +39,19 @@ final class Check {
         asked++;
         if (got != want) {
             wrong++;
-            StackTraceElement at = new Throwable().getStackTrace()[1];
-            System.out.println(at + ": " + what + " answered " + got + ", due is " + want);
+            System.out.println(asker() + ": " + what + " answered " + got + ", due is " + want);
         }
+    }
+
+    /** The line of the test itself, not of what helps it. */
+    private static StackTraceElement asker() {
+        StackTraceElement[] all = new Throwable().getStackTrace();
+        for (StackTraceElement at : all) {
+            if (at.getClassName().endsWith("Test")) {
+                return at;
+            }
+        }
+        return all[all.length - 1];
     }
 
     void dueThat(String what, boolean holds) {
@@ -49,6 +59,24 @@ final class Check {
         if (!holds) {
             wrong++;
             System.out.println(what + " does not hold");
+        }
+    }
+
+    /** The RING that was refused last is just this one. */
+    void ringIs(LadderDesk d, int... places) {
+        for (int i = 0; i < places.length; i++) {
+            due("ring " + i, d.ring(i), places[i]);
+        }
+        for (int i : beyond(0, places.length - 1)) {
+            due("ring " + i, d.ring(i), BEYOND);
+        }
+        due("ring 16", d.ring(16), BEYOND);
+    }
+
+    /** What trialTold() tells of the TRIAL at PLACE 0, from the CHANCE on. */
+    void lookWas(LadderDesk d, int... told) {
+        for (int what = 0; what < told.length; what++) {
+            due("trialTold " + what, d.trialTold(0, what), told[what]);
         }
     }
 

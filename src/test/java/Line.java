@@ -91,6 +91,11 @@ final class Line {
         return this;
     }
 
+    Line takesWith(int... numberAndValue) {
+        taken.add(with(new Fault(0, numberAndValue)));
+        return this;
+    }
+
     Line refuses(int word, int number, int... values) {
         for (int value : values) {
             faults.add(new Fault(word, number, value));

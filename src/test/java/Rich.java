@@ -60,24 +60,16 @@ final class Rich {
 
     /** PLACE 1 STANDS on STEP 1 of 0 .. 3, 7 on its only one, 2 on NONE. */
     private static void climb(LadderDesk d) {
-        d.row(1, 4);
-        int[] steps = {5, 10, 20, 40};
-        for (int i = 0; i < steps.length; i++) {
-            d.step(1, i, steps[i]);
-        }
+        Desks.lay(d, 1, 5, 10, 20, 40);
         d.budget(1, 2, 10, 1000, false);
         d.waits(1, 3);
         d.grow(1, 0);
         d.count(1, 1, 0, 20, 1);
         d.count(1, 1, 1, 20, 2);
         d.grow(1, 1);
-        d.row(7, 1);
-        d.step(7, 0, 6);
+        Desks.lay(d, 7, 6);
         d.grow(7, 0);
-        d.row(2, 3);
-        d.step(2, 0, 7);
-        d.step(2, 1, 8);
-        d.step(2, 2, 9);
+        Desks.lay(d, 2, 7, 8, 9);
     }
 
     private static void tryOut(LadderDesk d) {

@@ -33,20 +33,11 @@ public final class RingEdgesTest {
         return d;
     }
 
-    private static void ringIs(LadderDesk d, int... places) {
-        for (int i = 0; i < places.length; i++) {
-            c.due("ring " + i, d.ring(i), places[i]);
-        }
-        for (int i : Check.beyond(0, places.length - 1)) {
-            c.due("ring " + i, d.ring(i), Check.BEYOND);
-        }
-    }
-
     private static void ringOfOne() {
         for (int p = 0; p < 16; p++) {
             LadderDesk d = hangers(Check.HANGING);
             c.due("on itself", d.hang(p, p, 0), Check.RING);
-            ringIs(d, p);
+            c.ringIs(d, p);
             c.due("it hangs on none", d.why(p), 0);
         }
     }
@@ -55,11 +46,11 @@ public final class RingEdgesTest {
         LadderDesk d = hangers(Check.HANGING);
         c.due("hang", d.hang(15, 0, 1), 1);
         c.due("back", d.hang(0, 15, 1), Check.RING);
-        ringIs(d, 0, 15);
+        c.ringIs(d, 0, 15);
         c.due("hang", d.hang(15, Check.NONE, 1), 1);
         c.due("the other way around", d.hang(0, 15, 1), 1);
         c.due("back", d.hang(15, 0, 1), Check.RING);
-        ringIs(d, 0, 15);
+        c.ringIs(d, 0, 15);
     }
 
     private static int[] upTo(int n) {
@@ -76,18 +67,18 @@ public final class RingEdgesTest {
             c.due("hang", d.hang(p, p + 1, 1), 1);
         }
         c.due("over all sixteen", d.hang(15, 0, 1), Check.RING);
-        ringIs(d, upTo(16));
+        c.ringIs(d, upTo(16));
         c.due("over fifteen", d.hang(15, 1, 1), Check.RING);
-        ringIs(d, 1, 2, 3, 4, 5, 6, 7, 8, 9, 10, 11, 12, 13, 14, 15);
+        c.ringIs(d, 1, 2, 3, 4, 5, 6, 7, 8, 9, 10, 11, 12, 13, 14, 15);
         c.due("over two", d.hang(15, 14, 1), Check.RING);
-        ringIs(d, 14, 15);
+        c.ringIs(d, 14, 15);
         c.due("it hangs on none", d.way(15), 1);
         d = hangers(Check.HANGING);
         for (int p = 1; p < 16; p++) {
             c.due("hang", d.hang(p, p - 1, 1), 1);
         }
         c.due("over all sixteen, downwards", d.hang(0, 15, 1), Check.RING);
-        ringIs(d, 0, 15, 14, 13, 12, 11, 10, 9, 8, 7, 6, 5, 4, 3, 2, 1);
+        c.ringIs(d, 0, 15, 14, 13, 12, 11, 10, 9, 8, 7, 6, 5, 4, 3, 2, 1);
     }
 
     /** PLACE p of 0 .. 7 asks the next, because the STOP at 8 + p hangs there. */
@@ -102,11 +93,11 @@ public final class RingEdgesTest {
                 c.due("stop", d.stop(8 + p, 1 << p, on), 1);
             }
             c.due("the last one", d.stop(15, 1 << 7, on), Check.RING);
-            ringIs(d, upTo(8));
+            c.ringIs(d, upTo(8));
             c.due("it hangs on none", d.hang(15, Check.NONE, 0), 1);
             c.due("stop", d.stop(15, 1 << 7, on), 1);
             c.due("by hanging", d.hang(15, 6, 0), Check.RING);
-            ringIs(d, 6, 7);
+            c.ringIs(d, 6, 7);
         }
     }
 
@@ -129,10 +120,10 @@ public final class RingEdgesTest {
             LadderDesk d = hangers(Check.STOP);
             d.hang(2, 0, 1);
             c.due("the set has what it hangs on", d.stop(2, 1, on), Check.RING);
-            ringIs(d, 0);
+            c.ringIs(d, 0);
             c.due("the set has another", d.stop(2, 1 << 1, on), 1);
             c.due("that asks 0 now", d.hang(0, 1, 0), Check.RING);
-            ringIs(d, 0, 1);
+            c.ringIs(d, 0, 1);
         }
     }
 
@@ -145,15 +136,15 @@ public final class RingEdgesTest {
         c.due("hang", d.hang(2, 1, 1), 1);
         d.empty(1);
         c.due("nothing is there", d.stop(2, 1 << 1, true), Check.RING);
-        ringIs(d, 1);
+        c.ringIs(d, 1);
         d.note(1, 7L);
         c.due("a NOTE is there", d.stop(2, 1 << 1 | 1 << 3, false), Check.RING);
-        ringIs(d, 1);
+        c.ringIs(d, 1);
         c.due("another NOTE", d.stop(2, 1 << 3, true), 1);
         d.make(1, Check.HANGING, 1, 0);
         d.make(3, Check.PLAIN, 1, 0);
         c.due("what came to that PLACE asks, too", d.hang(1, 3, 0), Check.RING);
-        ringIs(d, 1, 3);
+        c.ringIs(d, 1, 3);
     }
 
     private static void stopItselfIsNotAsked() {
@@ -161,7 +152,7 @@ public final class RingEdgesTest {
         d.stop(2, 1 << 1, true);
         c.due("on what stops it", d.hang(1, 2, 0), 1);
         c.due("on what it stops: that asks 1, which is itself", d.hang(2, 1, 0), Check.RING);
-        ringIs(d, 1);
+        c.ringIs(d, 1);
     }
 
     private static void stopThatHangsOnNoneAsksNothing() {
@@ -171,7 +162,7 @@ public final class RingEdgesTest {
         }
         c.due("none hangs", d.ring(0), Check.BEYOND);
         c.due("then one would", d.hang(5, 6, 0), Check.RING);
-        ringIs(d, 6);
+        c.ringIs(d, 6);
     }
 
     private static void ringsGoOverWhatIsEmpty() {
@@ -181,7 +172,7 @@ public final class RingEdgesTest {
         d.stop(9, 1 << 5, true);
         d.empty(5);
         c.due("7 would ask 3, that asks 5, that asks 7", d.hang(7, 3, 0), Check.RING);
-        ringIs(d, 3, 5, 7);
+        c.ringIs(d, 3, 5, 7);
         d.empty(7);
         d.make(7, Check.PLAIN, 1, 0);
         c.due("what hung there has gone", d.hang(3, 7, 0), 1);
@@ -193,7 +184,7 @@ public final class RingEdgesTest {
         c.due("on itself", d.hang(0, 0, 1), Check.RING);
         c.due("it hangs as before", d.why(0), 7);
         c.due("it hangs as before", d.hang(1, 0, 0), Check.RING);
-        ringIs(d, 0, 1);
+        c.ringIs(d, 0, 1);
         d.share(1, 1, 0, 0);
         d.share(1, 3, 0, 10000);
         c.due("by the WAY of before", d.why(0), 0);
@@ -217,20 +208,20 @@ public final class RingEdgesTest {
     private static void ringIsTheLastOne() {
         LadderDesk d = hangers(Check.STOP);
         d.hang(9, 9, 0);
-        ringIs(d, 9);
+        c.ringIs(d, 9);
         c.due("taken", d.hang(9, 8, 0), 1);
-        ringIs(d, 9);
+        c.ringIs(d, 9);
         c.due("refused by another word", d.hang(9, 16, 0), Check.BEYOND);
         c.due("refused by another word", d.stop(9, 1 << 9, true), Check.NO);
-        ringIs(d, 9);
+        c.ringIs(d, 9);
         d.hang(8, 9, 0);
-        ringIs(d, 8, 9);
+        c.ringIs(d, 8, 9);
         d.empty(8);
         d.empty(9);
-        ringIs(d, 8, 9);
+        c.ringIs(d, 8, 9);
         d.stop(10, 1 << 11, true);
         d.hang(10, 11, 0);
-        ringIs(d, 11);
+        c.ringIs(d, 11);
     }
 
     /** Several PLACES would come to themselves: it begins with the least, though others do so over fewer. */
@@ -242,7 +233,7 @@ public final class RingEdgesTest {
         d.hang(15, 12, 0);
         d.stop(15, 1 << 10, false);
         c.due("12 and 10 would ask one another", d.hang(12, 10, 0), Check.RING);
-        ringIs(d, 0, 9, 12, 10);
+        c.ringIs(d, 0, 9, 12, 10);
     }
 
     /** 0 only leads to a RING: it does not come to itself. */
@@ -252,7 +243,7 @@ public final class RingEdgesTest {
         d.hang(1, 0, 0);
         d.hang(5, 6, 0);
         c.due("RING", d.hang(6, 5, 0), Check.RING);
-        ringIs(d, 5, 6);
+        c.ringIs(d, 5, 6);
     }
 
     /** What a PLACE hangs on, and what the STOPS below and above it hang on: it asks all of them. */
@@ -264,18 +255,18 @@ public final class RingEdgesTest {
                 d.hang(stop, 3, 0);
                 d.stop(stop, 1 << 5, false);
                 c.due("5 asks " + asked, d.hang(asked, 5, 0), Check.RING);
-                ringIs(d, Math.min(5, asked), Math.max(5, asked));
+                c.ringIs(d, Math.min(5, asked), Math.max(5, asked));
             }
         }
         LadderDesk d = hangers(Check.STOP);
         d.hang(0, 3, 0);
         c.due("the last bit", d.stop(0, 1 << 15, false), 1);
         c.due("15 asks 3", d.hang(3, 15, 0), Check.RING);
-        ringIs(d, 3, 15);
+        c.ringIs(d, 3, 15);
         d.hang(15, 2, 0);
         d.stop(15, 1, false);
         c.due("0 asks 2", d.hang(2, 0, 0), Check.RING);
-        ringIs(d, 0, 2);
+        c.ringIs(d, 0, 2);
     }
 
     /** From 1 over 7 or 8 to 9, and back: it does not matter which of them came first. */
@@ -289,14 +280,14 @@ public final class RingEdgesTest {
             d.hang(7, 9, 0);
             d.hang(8, 9, 0);
             c.due("RING", d.hang(9, 1, 0), Check.RING);
-            ringIs(d, 1, 7, 9);
+            c.ringIs(d, 1, 7, 9);
             d.hang(7, 10, 0);
             d.hang(10, 9, 0);
             c.due("now it is farther", d.hang(9, 1, 0), Check.RING);
-            ringIs(d, 1, 8, 9);
+            c.ringIs(d, 1, 8, 9);
             d.hang(8, 10, 0);
             c.due("now both are as far again", d.hang(9, 1, 0), Check.RING);
-            ringIs(d, 1, 7, 10, 9);
+            c.ringIs(d, 1, 7, 10, 9);
         }
     }
 

@@ -326,14 +326,14 @@ public final class ShelfTest {
         d.hang(4, 7, 0);
         d.hang(2, 9, 0);
         c.due("RING", d.hang(7, 9, 0), Check.RING);
-        ringIs(d, 4, 7, 9);
+        c.ringIs(d, 4, 7, 9);
         c.due("what is refused changes nothing", d.hang(7, 3, 0), 1);
-        ringIs(d, 4, 7, 9);
+        c.ringIs(d, 4, 7, 9);
         c.due("itself", d.hang(15, 15, 3), Check.RING);
-        ringIs(d, 15);
+        c.ringIs(d, 15);
         c.due("hangs on none", d.hang(4, Check.NONE, 0), 1);
         c.due("no RING any more", d.hang(7, 9, 0), 1);
-        ringIs(d, 15);
+        c.ringIs(d, 15);
     }
 
     private static void ringTakesTheShortest() {
@@ -346,15 +346,15 @@ public final class ShelfTest {
         d.hang(14, 4, 0);
         d.stop(14, 1 << 1, false);
         c.due("RING", d.hang(4, 1, 0), Check.RING);
-        ringIs(d, 1, 4);
+        c.ringIs(d, 1, 4);
         d.hang(4, 5, 0);
         d.hang(5, 6, 0);
         d.hang(15, 6, 0);
         d.stop(15, 1 << 2, true);
         c.due("RING", d.hang(6, 2, 0), Check.RING);
-        ringIs(d, 2, 6);
+        c.ringIs(d, 2, 6);
         c.due("RING", d.hang(6, 1, 0), Check.RING);
-        ringIs(d, 1, 2, 6);
+        c.ringIs(d, 1, 2, 6);
     }
 
     private static void ringTakesTheLeast() {
@@ -366,11 +366,11 @@ public final class ShelfTest {
         d.hang(14, 8, 0);
         d.stop(14, 1 << 1, false);
         c.due("RING", d.hang(12, 1, 0), Check.RING);
-        ringIs(d, 1, 8, 12);
+        c.ringIs(d, 1, 8, 12);
         d.hang(1, 8, 0);
         d.hang(14, 9, 0);
         c.due("RING", d.hang(12, 1, 0), Check.RING);
-        ringIs(d, 1, 8, 12);
+        c.ringIs(d, 1, 8, 12);
     }
 
     private static void ringEndsAtItsGoal() {
@@ -381,7 +381,7 @@ public final class ShelfTest {
         d.hang(4, 1, 0);
         d.hang(5, 1, 0);
         c.due("4 asks the goal, and one more that comes to it", d.hang(1, 4, 0), Check.RING);
-        ringIs(d, 1, 4);
+        c.ringIs(d, 1, 4);
     }
 
     private static void ringOverStops() {
@@ -390,17 +390,17 @@ public final class ShelfTest {
         d.hang(10, 3, 0);
         d.stop(10, 1 << 5, false);
         c.due("it asks what the STOP hangs on, not the STOP", d.hang(3, 10, 0), Check.RING);
-        ringIs(d, 3, 10);
+        c.ringIs(d, 3, 10);
         c.due("RING", d.hang(3, 5, 0), Check.RING);
-        ringIs(d, 3, 5);
+        c.ringIs(d, 3, 5);
         d.hang(10, Check.NONE, 0);
         c.due("a STOP that hangs on none", d.hang(3, 5, 0), 1);
         c.due("RING", d.hang(10, 3, 0), Check.RING);
-        ringIs(d, 3, 5);
+        c.ringIs(d, 3, 5);
         d.stop(10, 0, true);
         c.due("hang", d.hang(10, 3, 0), 1);
         c.due("RING", d.stop(10, 1 << 5 | 1 << 1, true), Check.RING);
-        ringIs(d, 3, 5);
+        c.ringIs(d, 3, 5);
         c.due("no other is ON by what was refused", d.stop(10, 1 << 1, false), 1);
     }
 
@@ -415,12 +415,12 @@ public final class ShelfTest {
         d.make(5, Check.PLAIN, 1, 0);
         d.hang(3, 5, 0);
         c.due("RING", d.hang(3, 5, 0), Check.RING);
-        ringIs(d, 3, 5);
+        c.ringIs(d, 3, 5);
         d.hang(10, 4, 0);
         c.due("hang", d.hang(3, 5, 0), 1);
         d.empty(5);
         c.due("over a PLACE that is empty", d.hang(10, 3, 0), Check.RING);
-        ringIs(d, 3, 5);
+        c.ringIs(d, 3, 5);
         d.note(5, 1L);
         c.due("over a NOTE", d.hang(10, 3, 0), Check.RING);
     }
@@ -441,14 +441,5 @@ public final class ShelfTest {
             d.make(p, Check.HANGING, 1, 0);
         }
         return d;
-    }
-
-    private static void ringIs(LadderDesk d, int... places) {
-        for (int i = 0; i < places.length; i++) {
-            c.due("ring " + i, d.ring(i), places[i]);
-        }
-        for (int i : new int[] {-1, places.length, 16, Check.LEAST, Check.MOST}) {
-            c.due("ring " + i, d.ring(i), Check.BEYOND);
-        }
     }
 }

@@ -25,19 +25,11 @@ public final class StepEdgesTest {
         c.end();
     }
 
+    /** Its COUNTS at 0 let it GROW. */
     private static LadderDesk ladder(int... steps) {
-        LadderDesk d = new LadderDesk();
-        d.make(0, Check.STEPPED, 1, 0);
+        LadderDesk d = Desks.ladder(steps);
         d.count(0, 1, 0, 0, 0);
-        lay(d, 0, steps);
         return d;
-    }
-
-    private static void lay(LadderDesk d, int place, int... steps) {
-        d.row(place, steps.length);
-        for (int i = 0; i < steps.length; i++) {
-            d.step(place, i, steps[i]);
-        }
     }
 
     private static void stepsAre(LadderDesk d, int place, int... steps) {
@@ -65,10 +57,10 @@ public final class StepEdgesTest {
         LadderDesk d = ladder(1, 2, 3, 4);
         c.due("shorter", d.row(0, 2), 1);
         stepsAre(d, 0, 0, 0);
-        lay(d, 0, 5, 6);
+        Desks.lay(d, 0, 5, 6);
         c.due("longer", d.row(0, 4), 1);
         stepsAre(d, 0, 0, 0, 0, 0);
-        lay(d, 0, 7, 8, 9);
+        Desks.lay(d, 0, 7, 8, 9);
         for (int n : new int[] {0, -1, 21, Check.MOST, Check.LEAST}) {
             c.due("refused", d.row(0, n), n < 0 ? Check.BELOW : Check.NO);
         }
@@ -129,7 +121,7 @@ public final class StepEdgesTest {
     private static LadderDesk twoLadders() {
         LadderDesk d = ladder(1, 2, 3, 4);
         d.make(1, Check.TRIAL, 1, 0);
-        lay(d, 1, 11, 12, 13);
+        Desks.lay(d, 1, 11, 12, 13);
         return d;
     }
 

@@ -26,16 +26,6 @@ public final class StepsTest {
         c.end();
     }
 
-    private static LadderDesk ladder(int... steps) {
-        LadderDesk d = new LadderDesk();
-        d.make(0, Check.STEPPED, 1, 0);
-        d.row(0, steps.length);
-        for (int i = 0; i < steps.length; i++) {
-            d.step(0, i, steps[i]);
-        }
-        return d;
-    }
-
     private static void rows() {
         LadderDesk d = Check.ofEachKind();
         c.due("least", d.row(1, 1), 1);
@@ -83,7 +73,7 @@ public final class StepsTest {
     }
 
     private static void stepsBehindWhichItStands() {
-        LadderDesk d = ladder(0, 0, 0);
+        LadderDesk d = Desks.ladder(0, 0, 0);
         d.grow(0, 0);
         d.count(0, 1, 0, 0, 0);
         d.grow(0, 0);
@@ -93,7 +83,7 @@ public final class StepsTest {
     }
 
     private static void copies() {
-        LadderDesk d = ladder(1, 2, 3, 4);
+        LadderDesk d = Desks.ladder(1, 2, 3, 4);
         d.make(1, Check.TRIAL, 1, 0);
         d.row(1, 3);
         c.due("copy", d.copy(0, 1, 1, 0, 3), 3);
@@ -110,10 +100,10 @@ public final class StepsTest {
     }
 
     private static void copiesOverItself() {
-        LadderDesk d = ladder(1, 2, 3, 4, 5);
+        LadderDesk d = Desks.ladder(1, 2, 3, 4, 5);
         c.due("ahead", d.copy(0, 0, 0, 1, 4), 4);
         stepsAre(d, 0, 1, 1, 2, 3, 4);
-        d = ladder(1, 2, 3, 4, 5);
+        d = Desks.ladder(1, 2, 3, 4, 5);
         c.due("back", d.copy(0, 1, 0, 0, 4), 4);
         stepsAre(d, 0, 2, 3, 4, 5, 5);
     }
@@ -160,7 +150,7 @@ public final class StepsTest {
     }
 
     private static void growing() {
-        LadderDesk d = ladder(10, 10, 10000);
+        LadderDesk d = Desks.ladder(10, 10, 10000);
         c.due("to STEP 0", d.grow(0, 239), 10);
         c.due("STANDS", d.stands(0, 0), 0);
         d.count(0, 1, 5, 1, 1);
@@ -170,7 +160,7 @@ public final class StepsTest {
         c.due("SEATS", d.shares(0, 1, 1), 10000);
         c.due("there is no next", d.grow(0, 5), Check.BEYOND);
         c.due("there is no next", d.grow(0, 6), Check.BEYOND);
-        d = ladder(10, 9);
+        d = Desks.ladder(10, 9);
         d.share(0, 1, 500, 11);
         c.due("less than WAY 1 has", d.grow(0, 0), Check.NO);
         d.share(0, 1, 500, 10);
@@ -182,7 +172,7 @@ public final class StepsTest {
     }
 
     private static void growingAsksInOrder() {
-        LadderDesk d = ladder(10, 5);
+        LadderDesk d = Desks.ladder(10, 5);
         d.budget(0, 3, 100, 1000, false);
         d.waits(0, 9);
         for (int minute : new int[] {-1, 240, Check.LEAST, Check.MOST}) {
@@ -215,14 +205,14 @@ public final class StepsTest {
         c.due("no next goes ahead of UNTOLD", d.grow(0, 100), Check.BEYOND);
         d.tear(0);
         c.due("the ROW goes ahead of the next", d.grow(0, 100), Check.MISSING);
-        d = ladder(1, 1);
+        d = Desks.ladder(1, 1);
         d.grow(0, 0);
         d.counts(0, 1, false);
         c.due("the ROW of COUNTS is missing", d.grow(0, 0), Check.UNTOLD);
     }
 
     private static void growingOnNoneAsksOnlyForWaiting() {
-        LadderDesk d = ladder(5, 6);
+        LadderDesk d = Desks.ladder(5, 6);
         d.budget(0, 1, 0, 0, true);
         d.waits(0, 2);
         d.grow(0, 0);
@@ -243,7 +233,7 @@ public final class StepsTest {
     }
 
     private static void growingOverOthers() {
-        LadderDesk d = ladder(10, 20, 30);
+        LadderDesk d = Desks.ladder(10, 20, 30);
         d.share(0, 1, 100, 0);
         d.share(0, 2, 120, 1);
         d.count(0, 1, 0, 0, 0);
@@ -253,7 +243,7 @@ public final class StepsTest {
         c.due("nothing changed", d.shares(0, 1, 1), 20);
         d.share(0, 2, 0, 100);
         c.due("the other is ahead", d.grow(0, 0), 30);
-        d = ladder(1, 2);
+        d = Desks.ladder(1, 2);
         d.share(0, 1, 9999, 0);
         d.count(0, 1, 0, 0, 0);
         c.due("the last SEAT", d.grow(0, 0), 1);
@@ -261,7 +251,7 @@ public final class StepsTest {
     }
 
     private static void goingBack() {
-        LadderDesk d = ladder(3, 4, 5);
+        LadderDesk d = Desks.ladder(3, 4, 5);
         d.count(0, 1, 0, 0, 0);
         c.due("NONE", d.back(0), Check.NO);
         d.grow(0, 0);
@@ -272,7 +262,7 @@ public final class StepsTest {
         d.tear(0);
         c.due("no ROW", d.back(0), Check.MISSING);
         c.due("STANDS", d.stands(0, 0), 1);
-        d = ladder(3, 4);
+        d = Desks.ladder(3, 4);
         d.share(0, 1, 70, 0);
         d.grow(0, 0);
         d.tear(0);
@@ -412,7 +402,7 @@ public final class StepsTest {
 
     /** It STANDS on STEP 2, with 30 SEATS. */
     private static LadderDesk climbed() {
-        LadderDesk d = ladder(10, 20, 30);
+        LadderDesk d = Desks.ladder(10, 20, 30);
         d.count(0, 1, 239, 0, 0);
         d.grow(0, 239);
         d.grow(0, 239);

@@ -22,24 +22,6 @@ public final class TrialEdgesTest {
         c.end();
     }
 
-    private static LadderDesk trial(int part, int looks) {
-        LadderDesk d = new LadderDesk();
-        d.make(0, Check.TRIAL, 1, 0);
-        d.trial(0, 0, 1, part, looks);
-        return d;
-    }
-
-    private static void tell(LadderDesk d, int way, int minute, int calls, int goods) {
-        d.count(0, way, minute, calls, 0);
-        d.goods(0, way, minute, goods);
-    }
-
-    private static void lookWas(LadderDesk d, int... due) {
-        for (int what = 0; what < due.length; what++) {
-            c.due("trialTold " + what, d.trialTold(0, what), due[what]);
-        }
-    }
-
     /** "Until then it is one of WAYS 0 and 1, PART 500, 1 LOOK." */
     private static void trialAtFirst() {
         int[][] cases = {
@@ -48,9 +30,9 @@ public final class TrialEdgesTest {
         for (int[] n : cases) {
             LadderDesk d = new LadderDesk();
             d.make(0, Check.TRIAL, 1, 0);
-            lookWas(d, 0, 0, 0, 0, 0, 0, 0);
-            tell(d, 0, 0, n[0], n[1]);
-            tell(d, 1, 0, n[2], n[3]);
+            c.lookWas(d, 0, 0, 0, 0, 0, 0, 0);
+            Desks.tell(d, 0, 0, n[0], n[1]);
+            Desks.tell(d, 1, 0, n[2], n[3]);
             c.due("it ENDS by its only LOOK", d.look(0, 0), n[4]);
             c.due("no more", d.look(0, 0), Check.NO);
         }
@@ -59,9 +41,9 @@ public final class TrialEdgesTest {
     private static void everyPairOfWays() {
         for (int x = 0; x < 4; x++) {
             for (int y = 0; y < 4; y++) {
-                LadderDesk d = trial(500, 1);
+                LadderDesk d = Desks.trial(500, 1);
                 for (int way = 0; way < 4; way++) {
-                    tell(d, way, 0, 10 + way, way);
+                    Desks.tell(d, way, 0, 10 + way, way);
                 }
                 c.due("x " + x + " y " + y, d.trial(0, x, y, 1, 20), x == y ? Check.NO : 1);
                 if (x != y) {
@@ -76,10 +58,10 @@ public final class TrialEdgesTest {
     }
 
     private static void minutesOfALook() {
-        LadderDesk d = trial(1, 20);
+        LadderDesk d = Desks.trial(1, 20);
         for (int m : new int[] {0, 1, 238, 239}) {
-            tell(d, 0, m, 1 + m % 5, 1);
-            tell(d, 1, m, 2 + m % 5, 0);
+            Desks.tell(d, 0, m, 1 + m % 5, 1);
+            Desks.tell(d, 1, m, 2 + m % 5, 0);
         }
         // Up to the MINUTE, with it: 0 tells 1 and 2 CALLS, 1 tells 2 and 3, 238 tells 4 and 5, 239 tells 5 and 6.
         int[][] due = {{0, 1, 2, 1}, {1, 3, 5, 2}, {2, 3, 5, 2}, {237, 3, 5, 2}, {238, 7, 10, 3}, {239, 12, 16, 4}};
@@ -93,18 +75,18 @@ public final class TrialEdgesTest {
     }
 
     private static void minutesToldOfOneOnly() {
-        LadderDesk d = trial(1, 20);
-        tell(d, 0, 0, 3, 1);
-        tell(d, 1, 1, 4, 1);
+        LadderDesk d = Desks.trial(1, 20);
+        Desks.tell(d, 0, 0, 3, 1);
+        Desks.tell(d, 1, 1, 4, 1);
         c.due("none is told of both", d.look(0, 239), Check.UNTOLD);
-        tell(d, 0, 2, 5, 2);
+        Desks.tell(d, 0, 2, 5, 2);
         c.due("none is told of both", d.look(0, 239), Check.UNTOLD);
-        tell(d, 1, 2, 6, 3);
+        Desks.tell(d, 1, 2, 6, 3);
         c.due("one is, but later", d.look(0, 1), Check.UNTOLD);
         c.due("one is", d.look(0, 2), 0);
         c.due("n1", d.trialTold(0, 1), 5);
         c.due("n2", d.trialTold(0, 2), 6);
-        tell(d, 1, 0, 0, 0);
+        Desks.tell(d, 1, 0, 0, 0);
         c.due("told as 0 is told", d.look(0, 2), 0);
         c.due("n1", d.trialTold(0, 1), 8);
         c.due("n2", d.trialTold(0, 2), 6);
@@ -113,34 +95,34 @@ public final class TrialEdgesTest {
     private static void callsUpToThirty() {
         for (int n1 : new int[] {0, 1, 2, 29, 30, 31}) {
             for (int n2 : new int[] {0, 1, 2, 29, 30, 31}) {
-                LadderDesk d = trial(1, 20);
-                tell(d, 0, 0, n1, 0);
-                tell(d, 1, 0, n2, 0);
+                LadderDesk d = Desks.trial(1, 20);
+                Desks.tell(d, 0, 0, n1, 0);
+                Desks.tell(d, 1, 0, n2, 0);
                 int due = n1 == 0 || n2 == 0 ? Check.UNTOLD : n1 > 30 || n2 > 30 ? Check.FULL : 0;
                 c.due("n1 " + n1 + " n2 " + n2, d.look(0, 0), due);
                 c.due("LOOKS", d.trialTold(0, 5), due == 0 ? 1 : 0);
             }
         }
-        LadderDesk d = trial(1, 20);
+        LadderDesk d = Desks.trial(1, 20);
         for (int m = 0; m < 31; m++) {
-            tell(d, 0, m, 1, 0);
-            tell(d, 1, m, 1, 0);
+            Desks.tell(d, 0, m, 1, 0);
+            Desks.tell(d, 1, m, 1, 0);
         }
         c.due("thirty in all", d.look(0, 29), 0);
         c.due("thirty-one in all", d.look(0, 30), Check.FULL);
     }
 
     private static void untoldGoesAheadOfFull() {
-        LadderDesk d = trial(1, 20);
-        tell(d, 0, 0, 31, 0);
-        tell(d, 1, 0, 0, 0);
+        LadderDesk d = Desks.trial(1, 20);
+        Desks.tell(d, 0, 0, 31, 0);
+        Desks.tell(d, 1, 0, 0, 0);
         c.due("n1 is above 30, n2 is 0", d.look(0, 0), Check.UNTOLD);
         d.trial(0, 1, 0, 1, 20);
         c.due("n1 is 0, n2 is above 30", d.look(0, 0), Check.UNTOLD);
     }
 
     private static void manyCallsAreFull() {
-        LadderDesk d = trial(1, 20);
+        LadderDesk d = Desks.trial(1, 20);
         for (int m = 0; m < 240; m++) {
             d.count(0, 0, m, 1000000, 0);
             d.count(0, 1, m, m == 239 ? 1 : 0, 0);
@@ -153,9 +135,9 @@ public final class TrialEdgesTest {
 
     private static void looksUpToTwenty() {
         for (int looks : new int[] {1, 2, 19, 20}) {
-            LadderDesk d = trial(1, looks);
-            tell(d, 0, 0, 3, 1);
-            tell(d, 1, 0, 3, 2);
+            LadderDesk d = Desks.trial(1, looks);
+            Desks.tell(d, 0, 0, 3, 1);
+            Desks.tell(d, 1, 0, 3, 2);
             for (int i = 1; i < looks; i++) {
                 c.due("it goes on", d.look(0, 0), 0);
                 c.due("LOOKS made", d.trialTold(0, 5), i);
@@ -178,145 +160,145 @@ public final class TrialEdgesTest {
         for (int[] n : cases) {
             for (int part : new int[] {n[2] - 1, n[2], n[2] + 1}) {
                 if (part <= 5000) {
-                    LadderDesk d = trial(part, n[1]);
-                    tell(d, 0, 0, 1, 1);
-                    tell(d, 1, 0, n[0], 0);
+                    LadderDesk d = Desks.trial(part, n[1]);
+                    Desks.tell(d, 0, 0, 1, 1);
+                    Desks.tell(d, 1, 0, n[0], 0);
                     int else3 = n[1] == 1 ? 3 : 0;
                     c.due("1 of " + (n[0] + 1) + ", PART " + part, d.look(0, 0), part >= n[2] ? 1 : else3);
                 }
             }
         }
-        LadderDesk d = trial(5000, 1);
-        tell(d, 0, 0, 1, 1);
-        tell(d, 1, 0, 1, 0);
+        LadderDesk d = Desks.trial(5000, 1);
+        Desks.tell(d, 0, 0, 1, 1);
+        Desks.tell(d, 1, 0, 1, 0);
         c.due("CHANCE 1 is above each PART", d.look(0, 0), 3);
-        lookWas(d, 1000000, 1, 1, 1, 0, 1, 3);
+        c.lookWas(d, 1000000, 1, 1, 1, 0, 1, 3);
     }
 
     private static void endsByTheOneThatIsBetter() {
-        LadderDesk d = trial(1, 20);
-        tell(d, 0, 0, 30, 30);
-        tell(d, 1, 0, 30, 0);
+        LadderDesk d = Desks.trial(1, 20);
+        Desks.tell(d, 0, 0, 30, 30);
+        Desks.tell(d, 1, 0, 30, 0);
         c.due("x is better", d.look(0, 0), 1);
-        lookWas(d, 0, 30, 30, 30, 0, 1, 1);
+        c.lookWas(d, 0, 30, 30, 30, 0, 1, 1);
         d.trial(0, 1, 0, 1, 20);
         c.due("y is better", d.look(0, 0), 2);
-        lookWas(d, 0, 30, 30, 0, 30, 1, 2);
-        d = trial(5000, 2);
-        tell(d, 0, 0, 30, 30);
-        tell(d, 1, 0, 15, 15);
+        c.lookWas(d, 0, 30, 30, 0, 30, 1, 2);
+        d = Desks.trial(5000, 2);
+        Desks.tell(d, 0, 0, 30, 30);
+        Desks.tell(d, 1, 0, 15, 15);
         c.due("neither is, and that is never rare", d.look(0, 0), 0);
         c.due("the last", d.look(0, 0), 3);
-        lookWas(d, 1000000, 30, 15, 30, 15, 2, 3);
+        c.lookWas(d, 1000000, 30, 15, 30, 15, 2, 3);
         // More GOODS, but fewer of its CALLS: the other one is better.
-        d = trial(5000, 1);
-        tell(d, 0, 0, 30, 5);
-        tell(d, 1, 0, 4, 4);
+        d = Desks.trial(5000, 1);
+        Desks.tell(d, 0, 0, 30, 5);
+        Desks.tell(d, 1, 0, 4, 4);
         c.due("y is better, by its part", d.look(0, 0), 2);
     }
 
     /** "not below": what is as far apart on the other side counts, too. */
     private static void farAsSeenCounts() {
-        LadderDesk d = trial(1, 20);
-        tell(d, 0, 0, 2, 2);
-        tell(d, 1, 0, 2, 0);
+        LadderDesk d = Desks.trial(1, 20);
+        Desks.tell(d, 0, 0, 2, 2);
+        Desks.tell(d, 1, 0, 2, 0);
         d.look(0, 0);
         c.due("2 of 6", d.trialTold(0, 0), 333333);
-        tell(d, 0, 0, 2, 2);
-        tell(d, 1, 0, 1, 0);
+        Desks.tell(d, 0, 0, 2, 2);
+        Desks.tell(d, 1, 0, 1, 0);
         d.look(0, 0);
         c.due("1 of 3: 1 and 1 is less far apart", d.trialTold(0, 0), 333333);
-        tell(d, 0, 0, 2, 1);
-        tell(d, 1, 0, 2, 1);
+        Desks.tell(d, 0, 0, 2, 1);
+        Desks.tell(d, 1, 0, 2, 1);
         d.look(0, 0);
         c.due("all are as far apart", d.trialTold(0, 0), 1000000);
-        tell(d, 0, 0, 2, 1);
-        tell(d, 1, 0, 1, 0);
+        Desks.tell(d, 0, 0, 2, 1);
+        Desks.tell(d, 1, 0, 1, 0);
         d.look(0, 0);
         c.due("1 of 2 against 0 of 1; 0 of 2 against 1 of 1", d.trialTold(0, 0), 1000000);
     }
 
     private static void chancesAtTheirEnds() {
-        LadderDesk d = trial(1, 20);
+        LadderDesk d = Desks.trial(1, 20);
         int[][] cases = {
             // n1, n2, g1, g2, millionths
             {1, 1, 0, 0, 1000000}, {1, 1, 1, 1, 1000000}, {30, 30, 0, 0, 1000000}, {30, 30, 30, 30, 1000000},
             {30, 30, 15, 15, 1000000}, {1, 30, 1, 0, 32258}, {30, 1, 0, 1, 32258}, {1, 30, 0, 30, 32258},
             {30, 30, 1, 0, 1000000}, {30, 30, 2, 0, 491525}, {30, 30, 15, 16, 1000000}, {30, 30, 29, 29, 1000000}};
         for (int[] n : cases) {
-            tell(d, 0, 0, n[0], n[2]);
-            tell(d, 1, 0, n[1], n[3]);
+            Desks.tell(d, 0, 0, n[0], n[2]);
+            Desks.tell(d, 1, 0, n[1], n[3]);
             c.due("it goes on", d.look(0, 0), 0);
             c.due(n[0] + " " + n[1] + " " + n[2] + " " + n[3], d.trialTold(0, 0), n[4]);
         }
     }
 
     private static void refusedLookIsNone() {
-        LadderDesk d = trial(1, 2);
-        tell(d, 0, 0, 4, 2);
-        tell(d, 1, 0, 5, 2);
+        LadderDesk d = Desks.trial(1, 2);
+        Desks.tell(d, 0, 0, 4, 2);
+        Desks.tell(d, 1, 0, 5, 2);
         c.due("look", d.look(0, 0), 0);
         int[] was = {1000000, 4, 5, 2, 2, 1, 0};
-        lookWas(d, was);
-        tell(d, 0, 1, 27, 0);
-        tell(d, 1, 1, 1, 0);
+        c.lookWas(d, was);
+        Desks.tell(d, 0, 1, 27, 0);
+        Desks.tell(d, 1, 1, 1, 0);
         c.due("FULL", d.look(0, 1), Check.FULL);
-        lookWas(d, was);
-        tell(d, 0, 0, 0, 0);
+        c.lookWas(d, was);
+        Desks.tell(d, 0, 0, 0, 0);
         c.due("UNTOLD", d.look(0, 0), Check.UNTOLD);
-        lookWas(d, was);
+        c.lookWas(d, was);
         d.counts(0, 1, false);
         c.due("MISSING", d.look(0, 0), Check.MISSING);
-        lookWas(d, was);
+        c.lookWas(d, was);
         d.counts(0, 1, true);
-        tell(d, 0, 0, 1, 0);
-        tell(d, 1, 0, 1, 0);
+        Desks.tell(d, 0, 0, 1, 0);
+        Desks.tell(d, 1, 0, 1, 0);
         c.due("the second of two", d.look(0, 0), 3);
     }
 
     private static void endedUntilAnew() {
-        LadderDesk d = trial(5000, 20);
-        tell(d, 0, 0, 30, 30);
-        tell(d, 1, 0, 30, 0);
+        LadderDesk d = Desks.trial(5000, 20);
+        Desks.tell(d, 0, 0, 30, 30);
+        Desks.tell(d, 1, 0, 30, 0);
         c.due("it ends at the first LOOK", d.look(0, 0), 1);
-        tell(d, 0, 0, 31, 0);
+        Desks.tell(d, 0, 0, 31, 0);
         c.due("NO goes ahead of FULL", d.look(0, 0), Check.NO);
-        tell(d, 0, 0, 0, 0);
+        Desks.tell(d, 0, 0, 0, 0);
         c.due("NO goes ahead of UNTOLD", d.look(0, 0), Check.NO);
-        lookWas(d, 0, 30, 30, 30, 0, 1, 1);
+        c.lookWas(d, 0, 30, 30, 30, 0, 1, 1);
         d.counts(0, 0, false);
         c.due("a ROW goes ahead of NO", d.look(0, 0), Check.MISSING);
         c.due("anew", d.trial(0, 1, 0, 1, 1), 1);
-        lookWas(d, 0, 0, 0, 0, 0, 0, 0);
+        c.lookWas(d, 0, 0, 0, 0, 0, 0, 0);
         c.due("a ROW", d.look(0, 0), Check.MISSING);
         d.counts(0, 0, true);
-        tell(d, 0, 0, 1, 0);
+        Desks.tell(d, 0, 0, 1, 0);
         c.due("it has not ended any more", d.look(0, 0), 3);
     }
 
     private static void refusedTrialLeavesIt() {
-        LadderDesk d = trial(1, 3);
-        tell(d, 0, 0, 4, 2);
-        tell(d, 1, 0, 5, 2);
+        LadderDesk d = Desks.trial(1, 3);
+        Desks.tell(d, 0, 0, 4, 2);
+        Desks.tell(d, 1, 0, 5, 2);
         d.look(0, 0);
         int[][] refused = {{0, 0, 1, 3}, {2, 3, 0, 3}, {2, 3, 5001, 3}, {2, 3, 1, 0}, {2, 3, 1, 21}};
         for (int[] n : refused) {
             c.due("trial", d.trial(0, n[0], n[1], n[2], n[3]), Check.NO);
         }
-        lookWas(d, 1000000, 4, 5, 2, 2, 1, 0);
+        c.lookWas(d, 1000000, 4, 5, 2, 2, 1, 0);
         c.due("of the WAYS of before", d.look(0, 0), 0);
         c.due("the third of three", d.look(0, 0), 3);
     }
 
     /** "A TRIAL is a STEPPED one, too": a LOOK leaves STEPS as they are, and an ended one GROWS. */
     private static void trialsGrow() {
-        LadderDesk d = trial(500, 1);
+        LadderDesk d = Desks.trial(500, 1);
         d.row(0, 2);
         d.step(0, 0, 5);
         d.step(0, 1, 6);
         c.due("grow", d.grow(0, 0), 5);
-        tell(d, 0, 0, 4, 4);
-        tell(d, 1, 0, 4, 0);
+        Desks.tell(d, 0, 0, 4, 4);
+        Desks.tell(d, 1, 0, 4, 0);
         c.due("look", d.look(0, 0), 1);
         c.due("STANDS", d.stands(0, 0), 0);
         c.due("grow", d.grow(0, 0), 6);

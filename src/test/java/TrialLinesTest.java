@@ -53,41 +53,42 @@ public final class TrialLinesTest {
             .refusesBeyond(0, 0, 15).refusesHeld(NO_TRIALS).refuses(Check.NO, 1, Check.beyond(0, 6)).holds();
     }
 
-    private static void among() {
-        line("among", (d, v) -> d.among(v[0], v[1], v[2], v[3]), 0, 1, 5, 20)
-            .takes(0, 1, 2, 3, 4).takes(1, 0, 7).takes(2, 0, 999980).takes(3, 1, 2000)
-            .takesAll(0, 1, 999999, 1).takesAll(0, 1, 998000, 2000)
-            .refusesBeyond(0, 0, 15).refusesBeyond(1, 0, 7).refusesBeyond(2, 0, 999999).refusesHeld()
-            .refuses(Check.BELOW, 3, -1, Check.LEAST)
+    /** first and n are the last two of four numbers. */
+    private static Line takingCrowds(Line line) {
+        return line.takes(2, 0, 999980).takes(3, 1, 2000)
+            .takesWith(2, 999999, 3, 1).takesWith(2, 998000, 3, 2000);
+    }
+
+    private static Line refusingCrowds(Line line) {
+        return line.refuses(Check.BELOW, 3, -1, Check.LEAST)
             .refuses(Check.NO, 2, 999981, 999999).refuses(Check.NO, 3, 0, 2001, Check.MOST)
             .refusesWith(Check.NO, 2, 999999, 3, 2).refusesWith(Check.NO, 2, 998001, 3, 2000)
-            .refusesWith(Check.NO, 2, 999999, 3, Check.MOST).holds();
+            .refusesWith(Check.NO, 2, 999999, 3, Check.MOST);
+    }
+
+    private static void among() {
+        Line line = takingCrowds(line("among", (d, v) -> d.among(v[0], v[1], v[2], v[3]), 0, 1, 5, 20))
+            .takes(0, 1, 2, 3, 4).takes(1, 0, 7)
+            .refusesBeyond(0, 0, 15).refusesBeyond(1, 0, 7).refusesBeyond(2, 0, 999999).refusesHeld();
+        refusingCrowds(line).holds();
     }
 
     private static void both() {
-        line("both", (d, v) -> d.both(v[0], v[1], v[2], v[3]), 0, 3, 5, 20)
-            .takes(0, 1, 2, 3, 4).takes(1, 0, 1, 2, 4).takes(2, 0, 999980).takes(3, 1, 2000)
-            .takesAll(0, 3, 999999, 1).takesAll(0, 3, 998000, 2000)
+        Line line = takingCrowds(line("both", (d, v) -> d.both(v[0], v[1], v[2], v[3]), 0, 3, 5, 20))
+            .takes(0, 1, 2, 3, 4).takes(1, 0, 1, 2, 4)
             .refusesBeyond(0, 0, 15).refusesBeyond(1, 0, 15).refusesBeyond(2, 0, 999999)
             .refuses(Check.MISSING, 0, Check.NOTHING).refuses(Check.MISSING, 1, Check.NOTHING)
-            .refuses(Check.KIND, 0, Check.NOTE).refuses(Check.KIND, 1, Check.NOTE)
-            .refuses(Check.BELOW, 3, -1, Check.LEAST)
-            .refuses(Check.NO, 2, 999981, 999999).refuses(Check.NO, 3, 0, 2001, Check.MOST)
-            .refusesWith(Check.NO, 2, 999999, 3, 2).refusesWith(Check.NO, 2, 998001, 3, 2000)
-            .refusesWith(Check.NO, 2, 999999, 3, Check.MOST).holds();
+            .refuses(Check.KIND, 0, Check.NOTE).refuses(Check.KIND, 1, Check.NOTE);
+        refusingCrowds(line).holds();
     }
 
     private static void moves() {
-        line("moves", (d, v) -> d.moves(v[0], v[1], v[2], v[3]), 0, 7, 5, 20)
-            .takes(0, 1, 2, 3, 4).takes(1, 0, 90).takes(2, 0, 999980).takes(3, 1, 2000)
-            .takesAll(0, 7, 999999, 1).takesAll(0, 7, 998000, 2000)
-            .refusesBeyond(0, 0, 15).refusesBeyond(2, 0, 999999).refusesHeld()
-            .refuses(Check.BELOW, 3, -1, Check.LEAST)
+        Line line = takingCrowds(line("moves", (d, v) -> d.moves(v[0], v[1], v[2], v[3]), 0, 7, 5, 20))
+            .takes(0, 1, 2, 3, 4).takes(1, 0, 90)
+            .refusesBeyond(0, 0, 15).refusesBeyond(2, 0, 999999).refusesHeld();
+        refusingCrowds(line)
             .refuses(Check.NO, 1, 91, 9990, 9991, 10000).refuses(Check.NO, 1, Check.beyond(0, 10000))
-            .refuses(Check.NO, 1, Check.MOST - 9, Check.MOST - 10)
-            .refuses(Check.NO, 2, 999981, 999999).refuses(Check.NO, 3, 0, 2001, Check.MOST)
-            .refusesWith(Check.NO, 2, 999999, 3, 2).refusesWith(Check.NO, 2, 998001, 3, 2000)
-            .refusesWith(Check.NO, 2, 999999, 3, Check.MOST).holds();
+            .refuses(Check.NO, 1, Check.MOST - 9, Check.MOST - 10).holds();
     }
 
     /** One that has kept no IMAGE yet. */

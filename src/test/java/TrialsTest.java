@@ -30,41 +30,23 @@ public final class TrialsTest {
         }
     }
 
-    private static LadderDesk trial(int part, int looks) {
-        LadderDesk d = new LadderDesk();
-        d.make(0, Check.TRIAL, 1, 0);
-        d.trial(0, 0, 1, part, looks);
-        return d;
-    }
-
-    private static void tell(LadderDesk d, int way, int minute, int calls, int goods) {
-        d.count(0, way, minute, calls, 0);
-        d.goods(0, way, minute, goods);
-    }
-
-    private static void toldIs(LadderDesk d, int... due) {
-        for (int what = 0; what < due.length; what++) {
-            c.due("what " + what, d.trialTold(0, what), due[what]);
-        }
-    }
-
     private static void trialAtFirst() {
         LadderDesk d = new LadderDesk();
         d.make(0, Check.TRIAL, 1, 0);
-        toldIs(d, 0, 0, 0, 0, 0, 0, 0);
-        tell(d, 0, 0, 4, 4);
-        tell(d, 1, 0, 4, 0);
+        c.lookWas(d, 0, 0, 0, 0, 0, 0, 0);
+        Desks.tell(d, 0, 0, 4, 4);
+        Desks.tell(d, 1, 0, 4, 0);
         c.due("2 of 70, 500 of 10000, one LOOK", d.look(0, 0), 1);
-        toldIs(d, 28571, 4, 4, 4, 0, 1, 1);
+        c.lookWas(d, 28571, 4, 4, 4, 0, 1, 1);
         d.make(0, Check.TRIAL, 1, 0);
-        tell(d, 0, 0, 3, 3);
-        tell(d, 1, 0, 3, 0);
+        Desks.tell(d, 0, 0, 3, 3);
+        Desks.tell(d, 1, 0, 3, 0);
         c.due("2 of 20: it is the last LOOK", d.look(0, 0), 3);
-        toldIs(d, 100000, 3, 3, 3, 0, 1, 3);
+        c.lookWas(d, 100000, 3, 3, 3, 0, 1, 3);
         c.due("anew", d.trial(0, 1, 0, 5000, 1), 1);
-        toldIs(d, 0, 0, 0, 0, 0, 0, 0);
+        c.lookWas(d, 0, 0, 0, 0, 0, 0, 0);
         c.due("the other is better", d.look(0, 0), 2);
-        toldIs(d, 100000, 3, 3, 0, 3, 1, 2);
+        c.lookWas(d, 100000, 3, 3, 0, 3, 1, 2);
     }
 
     private static void trialIsRefused() {
@@ -102,7 +84,7 @@ public final class TrialsTest {
         for (int place : new int[] {0, 1, 3, 4, 5}) {
             c.due("KIND", d.look(place, 0), Check.KIND);
         }
-        d = trial(500, 1);
+        d = Desks.trial(500, 1);
         c.due("not told", d.look(0, 0), Check.UNTOLD);
         d.counts(0, 2, false);
         d.counts(0, 3, false);
@@ -113,21 +95,21 @@ public final class TrialsTest {
         d.counts(0, 1, false);
         c.due("ROW of y", d.look(0, 0), Check.MISSING);
         d.counts(0, 1, true);
-        tell(d, 0, 0, 0, 0);
-        tell(d, 1, 0, 31, 0);
+        Desks.tell(d, 0, 0, 0, 0);
+        Desks.tell(d, 1, 0, 31, 0);
         c.due("n1 is 0", d.look(0, 0), Check.UNTOLD);
-        tell(d, 0, 0, 31, 0);
-        tell(d, 1, 0, 0, 0);
+        Desks.tell(d, 0, 0, 31, 0);
+        Desks.tell(d, 1, 0, 0, 0);
         c.due("n2 is 0", d.look(0, 0), Check.UNTOLD);
-        tell(d, 1, 0, 1, 0);
+        Desks.tell(d, 1, 0, 1, 0);
         c.due("n1 is 31", d.look(0, 0), Check.FULL);
-        tell(d, 0, 0, 1, 0);
-        tell(d, 1, 0, 31, 0);
+        Desks.tell(d, 0, 0, 1, 0);
+        Desks.tell(d, 1, 0, 31, 0);
         c.due("n2 is 31", d.look(0, 0), Check.FULL);
-        tell(d, 1, 0, 30, 0);
+        Desks.tell(d, 1, 0, 30, 0);
         c.due("the last LOOK", d.look(0, 0), 3);
         c.due("it has ended", d.look(0, 0), Check.NO);
-        tell(d, 1, 0, 0, 0);
+        Desks.tell(d, 1, 0, 0, 0);
         c.due("NO goes ahead of UNTOLD", d.look(0, 0), Check.NO);
         d.counts(0, 1, false);
         c.due("a ROW goes ahead of NO", d.look(0, 0), Check.MISSING);
@@ -141,14 +123,14 @@ public final class TrialsTest {
     }
 
     private static void lookTakesWhatIsToldOfBoth() {
-        LadderDesk d = trial(1, 20);
-        tell(d, 0, 3, 5, 1);
-        tell(d, 1, 3, 6, 2);
-        tell(d, 0, 4, 30, 30);
-        tell(d, 1, 5, 30, 30);
-        tell(d, 0, 239, 7, 3);
-        tell(d, 1, 239, 8, 4);
-        tell(d, 2, 4, 9, 9);
+        LadderDesk d = Desks.trial(1, 20);
+        Desks.tell(d, 0, 3, 5, 1);
+        Desks.tell(d, 1, 3, 6, 2);
+        Desks.tell(d, 0, 4, 30, 30);
+        Desks.tell(d, 1, 5, 30, 30);
+        Desks.tell(d, 0, 239, 7, 3);
+        Desks.tell(d, 1, 239, 8, 4);
+        Desks.tell(d, 2, 4, 9, 9);
         c.due("look", d.look(0, 2), Check.UNTOLD);
         c.due("look", d.look(0, 3), 0);
         c.due("n1", d.trialTold(0, 1), 5);
@@ -166,9 +148,9 @@ public final class TrialsTest {
     }
 
     private static void endsAsItGoes() {
-        LadderDesk d = trial(500, 2);
-        tell(d, 0, 0, 5, 0);
-        tell(d, 1, 0, 5, 5);
+        LadderDesk d = Desks.trial(500, 2);
+        Desks.tell(d, 0, 0, 5, 0);
+        Desks.tell(d, 1, 0, 5, 5);
         c.due("y is better", d.look(0, 0), 2);
         d.trial(0, 1, 0, 500, 2);
         c.due("x is better", d.look(0, 0), 1);
@@ -177,18 +159,18 @@ public final class TrialsTest {
         c.due("2 of 252, 60000: 476", d.look(0, 0), 1);
         d.trial(0, 1, 0, 500, 7);
         c.due("2 of 252, 70000: 555", d.look(0, 0), 0);
-        tell(d, 0, 0, 5, 5);
+        Desks.tell(d, 0, 0, 5, 5);
         d.trial(0, 1, 0, 5000, 2);
         c.due("all are good", d.look(0, 0), 0);
-        toldIs(d, 1000000, 5, 5, 5, 5, 1, 0);
+        c.lookWas(d, 1000000, 5, 5, 5, 5, 1, 0);
         c.due("all are good", d.look(0, 0), 3);
-        toldIs(d, 1000000, 5, 5, 5, 5, 2, 3);
+        c.lookWas(d, 1000000, 5, 5, 5, 5, 2, 3);
     }
 
     private static void lastLookEnds() {
-        LadderDesk d = trial(1, 20);
-        tell(d, 0, 0, 1, 0);
-        tell(d, 1, 0, 2, 1);
+        LadderDesk d = Desks.trial(1, 20);
+        Desks.tell(d, 0, 0, 1, 0);
+        Desks.tell(d, 1, 0, 2, 1);
         for (int i = 1; i < 20; i++) {
             c.due("it goes on", d.look(0, 0), 0);
             c.due("LOOKS", d.trialTold(0, 5), i);
@@ -201,23 +183,23 @@ public final class TrialsTest {
     }
 
     private static void refusedLookIsNone() {
-        LadderDesk d = trial(1, 2);
-        tell(d, 0, 0, 2, 1);
-        tell(d, 1, 0, 2, 1);
+        LadderDesk d = Desks.trial(1, 2);
+        Desks.tell(d, 0, 0, 2, 1);
+        Desks.tell(d, 1, 0, 2, 1);
         d.look(0, 0);
-        tell(d, 0, 1, 31, 1);
-        tell(d, 1, 1, 31, 1);
+        Desks.tell(d, 0, 1, 31, 1);
+        Desks.tell(d, 1, 1, 31, 1);
         c.due("refused", d.look(0, 1), Check.FULL);
-        toldIs(d, 1000000, 2, 2, 1, 1, 1, 0);
+        c.lookWas(d, 1000000, 2, 2, 1, 1, 1, 0);
         d.trial(0, 0, 0, 1, 1);
-        toldIs(d, 1000000, 2, 2, 1, 1, 1, 0);
+        c.lookWas(d, 1000000, 2, 2, 1, 1, 1, 0);
     }
 
     private static void chanceJustAtThePart() {
         // A CHANCE of 1 of 5 comes to whole PARTS: one PART less must not end it.
-        LadderDesk d = trial(4000, 2);
-        tell(d, 0, 0, 1, 1);
-        tell(d, 1, 0, 4, 0);
+        LadderDesk d = Desks.trial(4000, 2);
+        Desks.tell(d, 0, 0, 1, 1);
+        Desks.tell(d, 1, 0, 4, 0);
         c.due("1 of 5 * 20000 is 4000", d.look(0, 0), 1);
         d.trial(0, 0, 1, 3999, 2);
         c.due("1 of 5 * 20000 is above 3999", d.look(0, 0), 0);
@@ -249,8 +231,8 @@ public final class TrialsTest {
         int end = better < 0 ? 1 : better > 0 ? 2 : 3;
         LadderDesk d = new LadderDesk();
         d.make(0, Check.TRIAL, 1, 0);
-        tell(d, 0, 0, n1, g1);
-        tell(d, 1, 0, n2, g2);
+        Desks.tell(d, 0, 0, n1, g1);
+        Desks.tell(d, 1, 0, n2, g2);
         String which = n1 + " " + n2 + " " + g1 + " " + g2;
         for (int p = part - 1; p <= part + 1; p++) {
             if (p >= 1 && p <= 5000) {
