@@ -26,8 +26,13 @@ final class Desks {
         return d;
     }
 
+    /** COUNTS of the SWITCH at PLACE 0. */
     static void tell(LadderDesk d, int way, int minute, int calls, int goods) {
-        d.count(0, way, minute, calls, 0);
-        d.goods(0, way, minute, goods);
+        tell(d, 0, way, minute, calls, goods);
+    }
+
+    static void tell(LadderDesk d, int place, int way, int minute, int calls, int goods) {
+        d.count(place, way, minute, calls, 0);
+        d.goods(place, way, minute, goods);
     }
 }

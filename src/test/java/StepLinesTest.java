@@ -32,6 +32,7 @@ public final class StepLinesTest {
     }
 
     private static void growTwice(LadderDesk d) {
+        d.count(2, 1, 0, 10, 0);
         d.grow(2, 0);
         d.grow(2, 0);
     }

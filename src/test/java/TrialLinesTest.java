@@ -84,23 +84,18 @@ public final class TrialLinesTest {
 
     private static void moves() {
         Line line = takingCrowds(line("moves", (d, v) -> d.moves(v[0], v[1], v[2], v[3]), 0, 7, 5, 20))
-            .takes(0, 1, 2, 3, 4).takes(1, 0, 90)
+            .takes(0, 1, 2, 3, 4).takes(1, 0, 88)
             .refusesBeyond(0, 0, 15).refusesBeyond(2, 0, 999999).refusesHeld();
         refusingCrowds(line)
-            .refuses(Check.NO, 1, 91, 9990, 9991, 10000).refuses(Check.NO, 1, Check.beyond(0, 10000))
-            .refuses(Check.NO, 1, Check.MOST - 9, Check.MOST - 10).holds();
-    }
-
-    /** One that has kept no IMAGE yet. */
-    private static LadderDesk without() {
-        return Check.ofEachKind();
+            .refuses(Check.NO, 1, 89, 9988, 9989, 10000).refuses(Check.NO, 1, Check.beyond(0, 10000))
+            .refuses(Check.NO, 1, Check.MOST - 11, Check.MOST - 12).holds();
     }
 
     private static void all() {
         line("image", (d, v) -> d.image()).holds();
         line("restore", (d, v) -> d.restore()).holds();
         line("restore without an IMAGE", (d, v) -> v[0] == 0 ? d.image() : d.restore(), 0)
-            .on(TrialLinesTest::without).refuses(Check.MISSING, 0, 1).holds();
+            .on(Rich::withoutImage).refuses(Check.MISSING, 0, 1).holds();
         line("status", (d, v) -> d.status(v[0]), -5)
             .takes(0, -2, -13).refuses(Check.NO, 0, -1, -14, 0, 1, 2, 13, Check.LEAST, Check.MOST, -Check.MOST).holds();
     }
