@@ -201,19 +201,18 @@ final class Rich {
         to.add(d.trialTold(2, 5));
     }
 
-    /** What a BUDGET is can be seen only by what comes of it. */
+    /** What a BUDGET is can be seen only by what comes of it: ENOUGH first, by calls that are not refused. */
     private static void readBudgets(LadderDesk d, Answers to) {
         for (int p : new int[] {1, 2, 7}) {
-            to.add(d.grow(p, 9));
-            to.add(d.left(p, 9));
+            to.add(d.counts(p, 1, true));
+            to.add(d.count(p, 1, 210, 5, 0));
+            for (int calls : new int[] {5, 4, 5}) {
+                to.add(d.count(p, 1, 211, calls, 0));
+                to.add(d.grow(p, 211));
+            }
             for (int minute : new int[] {200, 201}) {
                 to.add(d.count(p, 1, minute, 10000, 0));
                 to.add(d.left(p, minute));
-            }
-            for (int calls : new int[] {4, 5}) {
-                to.add(d.count(p, 1, 210, 5, 0));
-                to.add(d.count(p, 1, 211, calls, 0));
-                to.add(d.grow(p, 211));
             }
             to.add(d.count(p, 1, 211, 20, 20));
             for (int what = 0; what < 4; what++) {
